@@ -62,7 +62,7 @@ public final class SunDesk {
     private final Hill draft = new Hill();
     private final RuleReader ruleReader = new RuleReader();
     private final Rules rules = new Rules();
-    private final Orders orders = new Orders();
+    private final Orders orderBook = new Orders();
     private final State now = new State(State.DAYS_MOST);
     // What is tried apart keeps no LOG.
     private final State apart = new State(0);
@@ -106,11 +106,11 @@ public final class SunDesk {
         if (sort == SORT_RULE) {
             return ruleReader.read(tape);
         }
-        return sort == SORT_ORDERS ? orders.read(tape) : NO_SORT;
+        return sort == SORT_ORDERS ? orderBook.read(tape) : NO_SORT;
     }
 
     public int text(int sort) {
-        boolean full = sort == SORT_RULE && rules.many == RULES_MOST || sort == SORT_ORDERS && orders.many == ORDERS_MOST;
+        boolean full = sort == SORT_RULE && rules.many == RULES_MOST || sort == SORT_ORDERS && orderBook.many == ORDERS_MOST;
         if (full || fault(sort) != NONE) {
             return NONE;
         }
@@ -119,7 +119,7 @@ public final class SunDesk {
             return rules.add(ruleReader);
         }
         if (sort == SORT_ORDERS) {
-            return orders.add();
+            return orderBook.add();
         }
         beginHill();
         return hill.many(PARISH);
@@ -251,15 +251,15 @@ public final class SunDesk {
     }
 
     public int step(int orders, int i, int what) {
-        return this.orders.part(orders, i, what);
+        return orderBook.part(orders, i, what);
     }
 
     public int run(int orders) {
-        if (!hasHill() || !this.orders.has(orders)) {
+        if (!hasHill() || !orderBook.has(orders)) {
             return HIDDEN;
         }
         apart.take(now);
-        for (int i = 0; i < this.orders.length(orders); i++) {
+        for (int i = 0; i < orderBook.length(orders); i++) {
             if (!canStep(apart, orders, i)) {
                 return i;
             }
@@ -269,17 +269,17 @@ public final class SunDesk {
     }
 
     public int perform(int orders) {
-        if (!hasHill() || !this.orders.has(orders)) {
+        if (!hasHill() || !orderBook.has(orders)) {
             return NONE;
         }
-        for (int i = 0; i < this.orders.length(orders); i++) {
+        for (int i = 0; i < orderBook.length(orders); i++) {
             if (!canStep(now, orders, i)) {
                 return i;
             }
             acts.keep(now);
             takeStep(now, orders, i);
         }
-        return this.orders.length(orders);
+        return orderBook.length(orders);
     }
 
     public int ahead(int parish, int n, int what) {
@@ -474,7 +474,7 @@ public final class SunDesk {
             case 3:
                 return rules.many;
             case 4:
-                return orders.many;
+                return orderBook.many;
             case 5:
                 return tape.length;
             case 6:
@@ -513,16 +513,16 @@ public final class SunDesk {
     }
 
     private boolean canStep(State state, int orders, int i) {
-        return state.allows(hill, this.orders.part(orders, i, 0), this.orders.part(orders, i, 1), this.orders.part(orders, i, 2));
+        return state.allows(hill, orderBook.part(orders, i, 0), orderBook.part(orders, i, 1), orderBook.part(orders, i, 2));
     }
 
     /** Does a STEP that can be. */
     private void takeStep(State state, int orders, int i) {
-        int sort = this.orders.part(orders, i, 0);
+        int sort = orderBook.part(orders, i, 0);
         if (sort == FILING) {
-            state.enqueue(hill, this.orders.part(orders, i, 1), this.orders.part(orders, i, 2));
+            state.enqueue(hill, orderBook.part(orders, i, 1), orderBook.part(orders, i, 2));
         } else if (sort == WITHDRAWING) {
-            state.leave(this.orders.part(orders, i, 1));
+            state.leave(orderBook.part(orders, i, 1));
         } else {
             state.pass(hill, rules, false);
         }
@@ -1433,16 +1433,16 @@ public final class SunDesk {
     private static final class Acts {
         int many;
         private final int[] rows = new int[ACTS_MOST * State.CELLS];
-        /** Where the next one is kept. */
-        private int slot;
+        /** Which of these rows the latest one is, counted on beyond the last. */
+        private int latest;
 
         void forget() {
             many = 0;
         }
 
         void keep(State state) {
-            System.arraycopy(state.cells, 0, rows, slot * State.CELLS, State.CELLS);
-            slot = (slot + 1) % ACTS_MOST;
+            latest++;
+            System.arraycopy(state.cells, 0, rows, Math.floorMod(latest, ACTS_MOST) * State.CELLS, State.CELLS);
             many = Math.min(many + 1, ACTS_MOST);
         }
 
@@ -1451,8 +1451,8 @@ public final class SunDesk {
             if (many < 1) {
                 return NONE;
             }
-            slot = (slot + ACTS_MOST - 1) % ACTS_MOST;
-            System.arraycopy(rows, slot * State.CELLS, state.cells, 0, State.CELLS);
+            System.arraycopy(rows, Math.floorMod(latest, ACTS_MOST) * State.CELLS, state.cells, 0, State.CELLS);
+            latest--;
             many--;
             return many;
         }

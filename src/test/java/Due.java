@@ -93,6 +93,26 @@ final class Due {
         return x.text(sort);
     }
 
+    /** All that can be seen of an object without asking what is to come. */
+    static String stand(SunDesk x) {
+        StringBuilder seen = new StringBuilder();
+        for (int what = 0; what <= 11; what++) {
+            seen.append(x.count(what)).append(' ');
+        }
+        for (int p = 0; p < x.count(0); p++) {
+            for (int what = 0; what <= 8; what++) {
+                seen.append(x.parish(p, what)).append(' ');
+            }
+        }
+        for (int d = 0; d < x.count(1); d++) {
+            seen.append(x.desk(d, 4)).append(' ').append(x.desk(d, 5)).append(' ');
+        }
+        for (int i = 0; i < x.count(10); i++) {
+            seen.append(x.log(i, 0)).append(' ').append(x.log(i, 1)).append(' ');
+        }
+        return seen.append(x.could(-1)).append(' ').append(x.wrong()).toString();
+    }
+
     /** A new object with this HILL. */
     static SunDesk hill(String text) {
         SunDesk x = new SunDesk();
