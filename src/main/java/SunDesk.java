@@ -675,16 +675,15 @@ public final class SunDesk {
         private static final int[] MOST = {23, 24, 0, 0, 7, 24, 9, 0, 23, 24, 9, 9, 3, 8, 8, 0};
         private static final int[] UNTOLD = {6, 12, 0, 0, 0, 6, 5, 0, 0, 24, 1, 1, 0, 8, 8, 0};
         private static final int[] CLAUSES = {1, PARISHES_MOST, DESKS_MOST, PAPERS_MOST};
-        /** At which cell the first one of a kind stands. */
-        private static final int[] START = {0, 4, 28, 44};
-        private static final int CELLS = 76;
+        private static final int KINDS_MANY = 4;
 
-        private final int[] cells = new int[CELLS];
-        private final int[] told = new int[CLAUSES.length];
+        /** Of each kind room for as many as there may be PAPERS. */
+        private final int[] cells = new int[KINDS_MANY * PAPERS_MOST * ITEMS];
+        private final int[] told = new int[KINDS_MANY];
         private final int[] wanted = new int[PAPERS_MOST];
 
         int many(int kind) {
-            return Math.max(at(told, kind), 0);
+            return at(told, kind);
         }
 
         boolean has(int kind, int i) {
@@ -692,18 +691,22 @@ public final class SunDesk {
         }
 
         int item(int kind, int i, int item) {
-            return at(cells, at(START, kind) + i * ITEMS + item);
+            return at(cells, cellOf(kind, i, item));
+        }
+
+        private static int cellOf(int kind, int i, int item) {
+            return (kind * PAPERS_MOST + i) * ITEMS + item;
         }
 
         /** What a PAPER WANTS, as bits. */
         int wants(int paper) {
-            return Math.max(at(wanted, paper), 0);
+            return at(wanted, paper);
         }
 
         void take(Hill other) {
-            System.arraycopy(other.cells, 0, cells, 0, CELLS);
+            System.arraycopy(other.cells, 0, cells, 0, cells.length);
             System.arraycopy(other.told, 0, told, 0, told.length);
-            System.arraycopy(other.wanted, 0, wanted, 0, PAPERS_MOST);
+            System.arraycopy(other.wanted, 0, wanted, 0, wanted.length);
         }
 
         /** Reads the tape as a HILL: its FAULT. */
@@ -723,7 +726,7 @@ public final class SunDesk {
 
         private void useUntold(int kind, int i) {
             for (int item = 0; item < ITEMS; item++) {
-                put(cells, at(START, kind) + i * ITEMS + item, at(UNTOLD, kind * ITEMS + item));
+                put(cells, cellOf(kind, i, item), at(UNTOLD, kind * ITEMS + item));
             }
         }
 
@@ -750,7 +753,7 @@ public final class SunDesk {
                 if (value < at(LEAST, kind * ITEMS + item) || value > at(MOST, kind * ITEMS + item)) {
                     tape.blame(tape.place - 1);
                 }
-                put(cells, at(START, kind) + i * ITEMS + item, value);
+                put(cells, cellOf(kind, i, item), value);
                 item = itemOf(kind, tape.next());
             }
         }
