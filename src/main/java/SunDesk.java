@@ -575,6 +575,16 @@ public final class SunDesk {
         }
     }
 
+    /** Where a sign stands first among these; NONE if it does not (as for the end of a tape). */
+    private static int placeIn(String signs, int sign) {
+        for (int i = 0; i < signs.length(); i++) {
+            if (signs.charAt(i) == sign) {
+                return i;
+            }
+        }
+        return NONE;
+    }
+
     private static boolean isIn(int bits, int i) {
         return i >= 0 && i < PAPERS_MOST && (bits >> i & 1) == 1;
     }
@@ -731,7 +741,7 @@ public final class SunDesk {
         }
 
         private void readClause(Tape tape) {
-            int kind = KINDS.indexOf((char) tape.next());
+            int kind = placeIn(KINDS, tape.next());
             if (kind < 0 || many(kind) >= at(CLAUSES, kind)) {
                 tape.blame(tape.place);
                 return;
@@ -916,7 +926,7 @@ public final class SunDesk {
         /** A number, a letter or what opens one; whether the CLAUSE goes on. */
         private boolean readOperand(Tape tape) {
             int sign = tape.next();
-            int letter = sign == Tape.END ? NONE : LETTERS.indexOf((char) sign);
+            int letter = placeIn(LETTERS, sign);
             if (Tape.isDigit(sign)) {
                 emit(tape.number(NUMBER_DIGITS));
                 wantsAtom = false;
@@ -1178,7 +1188,7 @@ public final class SunDesk {
         }
 
         private void readStep(Tape tape) {
-            int sort = SORTS.indexOf((char) tape.next());
+            int sort = placeIn(SORTS, tape.next());
             if (sort < 0) {
                 tape.blame(tape.place);
                 return;

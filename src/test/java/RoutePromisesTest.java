@@ -52,6 +52,9 @@ public final class RoutePromisesTest {
         DUE.is("no HILL", new SunDesk().soonest(0, 0), -1);
         SunDesk deep = Due.hill("pf7;d;r;rn0;rn1;rn2;rn3;rn4;rn5;rn6");
         soonest(deep, 0, 8, 1234567, 8);
+        SunDesk toiled = Due.hill("pf7;d;r;rn0;rn1;rn2;rn3;rn4;rn5;rn6;sa23");
+        toiled.toil(8);
+        DUE.is("all eight", toiled.parish(0, 3), 255);
         SunDesk wide = Due.hill("p;d;rn1m2;rn3m4;rn5m6;r;r;rn7;r;r");
         soonest(wide, 0, 8, 34167520, 8);
     }
@@ -69,6 +72,9 @@ public final class RoutePromisesTest {
         soonest(x, 0, 15, 12, 3);
         x.go(1);
         soonest(x, 0, 24, 102, 3);
+        // Behind nine hours for PAPER 0 the DESK of 1 opens next, though that of 2 would have ahead of them.
+        soonest(Due.hill("pf3;dt9;do10c12;do6c8;r;rd1n0;rd2n0;rn1m2"), 0, 40, 123, 4);
+        soonest(Due.hill("pf3;dt8;do10c12;do6c9;r;rd1n0;rd2n0;rn1m2"), 0, 19, 213, 4);
         // What is not done goes on when the DESK is open again.
         SunDesk y = Due.hill("p;do23c24t9;r");
         soonest(y, 0, 24 * 9, 0, 1);
