@@ -556,7 +556,7 @@ public final class SunDesk {
     private static int divisor(int above, int below) {
         int a = above;
         int b = below;
-        // Each round at least halves every second rest, so few are needed for numbers below 200.
+        // Two rounds halve the rest at least, so few are needed for numbers below 200.
         for (int i = 0; i < 2 * BRIBE_MOST && b > 0; i++) {
             int rest = a % b;
             a = b;
