@@ -41,6 +41,11 @@ final class Due {
         }
     }
 
+    /** That the document says this in that section: what stands below is the test of these words. */
+    void says(String section, String words) {
+        is("the document says in " + section + " \"" + words + "\"", Document.says(section, words), true);
+    }
+
     private void tell(String call, String got, String want) {
         wrong++;
         if (wrong <= 40) {
