@@ -375,7 +375,9 @@ public final class HourEdgeTest {
                     done += open ? 1 : 0;
                     x.go(1);
                     DUE.is("done " + o + " to " + c + " up to HOUR " + hour, x.parish(0, 5), done < 9 ? done : 0);
-                    DUE.is("held", x.parish(0, 3), done < 9 || hour >= 24 && o + 9 <= 24 && c >= o + 9 ? 0 : 1);
+                    // What is GRANTED on the first DAY goes at DAWN.
+                    boolean gone = c - o >= 9 && hour >= 24;
+                    DUE.is("held", x.parish(0, 3), done < 9 || gone ? 0 : 1);
                 }
             }
         }
