@@ -231,6 +231,7 @@ public final class OrdersEdgeTest {
 
     private static void doAsActs() {
         DUE.says("3", "DO: its STEPS as ACTS, up to there.");
+        DUE.says("Promise 21", "DO: how many STEPS were done.");
         SunDesk x = ordered("sa9;p;p;dt2;r;rn0", "f00;f10;h;h;w1;f11;h");
         String[] stands = new String[8];
         SunDesk apart = ordered("sa9;p;p;dt2;r;rn0", "f00;f10;h;h;w1;f11;h");
