@@ -15,6 +15,7 @@ public final class ActEdgeTest {
         aheadBeyond9999();
         aheadIsApart();
         imageKeepsAll();
+        imageKeepsTheLog();
         imageKeepsNoSeen();
         noneCanBeUndoneThen();
         insteadOfTheOneAhead();
@@ -293,6 +294,47 @@ public final class ActEdgeTest {
         x.go(23);
         DUE.is("it is granted on the next DAY", x.parish(1, 3), 3);
         DUE.is("its FEES", x.parish(1, 7), 8);
+    }
+
+    /** Its rows are those of its own HOURS, whatever comes into the LOG behind acts undone. */
+    private static void imageKeepsTheLog() {
+        SunDesk x = Due.hill("sa0;p;pn3;d;r");
+        x.file(0, 0);
+        x.go(25);
+        x.image();
+        DUE.is("light", x.log(0, 0), 1);
+        for (int i = 0; i < 26; i++) {
+            x.undo();
+        }
+        x.file(1, 0);
+        x.go(49);
+        DUE.is("light of another one", x.log(1, 0), 2);
+        DUE.is("back", x.back(), 25);
+        DUE.is("rows", x.count(10), 2);
+        DUE.is("the light of its own HOURS", x.log(0, 0), 1);
+        DUE.is("its hours", x.log(0, 1), 6);
+        DUE.is("none at first", x.log(1, 0), 0);
+        DUE.is("works knows it", x.works(1, 1), 6);
+        x.go(1);
+        x.undo();
+        x.file(1, 0);
+        x.go(24);
+        DUE.is("it goes on", x.log(0, 0), 2);
+        DUE.is("back once more", x.back(), 25);
+        DUE.is("rows", x.count(10), 2);
+        DUE.is("light", x.log(0, 0), 1);
+        SunDesk full = Due.hill("sa0;p;d;r");
+        full.toil(48);
+        for (int i = 0; i < 6; i++) {
+            full.go(240);
+        }
+        full.image();
+        String log = Due.stand(full).replaceFirst(" 60 40 ", " 60 0 ");
+        for (int i = 0; i < 6; i++) {
+            full.go(240);
+        }
+        full.back();
+        DUE.same("all its 60 rows", Due.stand(full), log);
     }
 
     private static void imageKeepsNoSeen() {

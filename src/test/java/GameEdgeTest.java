@@ -423,6 +423,11 @@ public final class GameEdgeTest {
                 all.see(i % 2, 7 + i);
             }
             DUE.is("all of " + many, all.wrong(), many);
+            SunDesk dark = Due.hill("sl12;p;p;d;r");
+            for (int i = 0; i < many; i++) {
+                dark.see(i % 2, 0);
+            }
+            DUE.is("by the empty set none of " + many, dark.wrong(), 0);
             SunDesk none = Due.hill("sl12;p;pn3;d;r");
             for (int i = 0; i < many; i++) {
                 none.see(i % 2, i % 2 == 0 ? 6 : 3);

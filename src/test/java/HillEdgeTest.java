@@ -38,7 +38,9 @@ public final class HillEdgeTest {
         withoutAny();
         opensAheadOfClosing();
         whatIsNotTold();
+        eachMustBeTold();
         theFirstByte();
+        textsOneBehindTheOther();
         DUE.close();
     }
 
@@ -374,6 +376,61 @@ public final class HillEdgeTest {
         fault("pf1;d;r;x", 8);
         fault("p;d;rn1;r", -1);
         fault("pf1;d;r;r", -1);
+    }
+
+    /** Each PARISH has to have a FORM that is told, each PAPER a DESK and PAPERS, wherever it stands. */
+    private static void eachMustBeTold() {
+        for (int i = 0; i < 6; i++) {
+            String text = "p;".repeat(i) + "pf3;" + "p;".repeat(5 - i) + "d;r;r;r";
+            fault(text, text.length());
+            right(text + ";r");
+        }
+        for (int i = 0; i < 8; i++) {
+            String before = "p;d;d" + ";r".repeat(i);
+            String behind = ";r".repeat(7 - i);
+            fault(before + ";rd2" + behind, before.length() + 4 + behind.length());
+            right(before + ";rd1" + behind);
+            right(before + ";rn7" + behind);
+            right(before + ";rm7" + behind);
+            if (i < 7) {
+                String less = behind.substring(2);
+                fault(before + ";rn7" + less, before.length() + 4 + less.length());
+                fault(before + ";rm7" + less, before.length() + 4 + less.length());
+                right(before + ";rn6m6" + less);
+            }
+        }
+    }
+
+    /** What was read ahead of it, right or not, leaves nothing behind. */
+    private static void textsOneBehindTheOther() {
+        String[] texts = {"sa1l2;pf1n2z3;p;do1c2t3e4;rn0m0;r", "p;d;r", "p;p;p;p;p;p;p", "s;s", "pf7n24z9", "d;d;d;d;d", "pn1;dt2;rn0;r;r;r;r;r;r;r;r", "x", ""};
+        for (String first : texts) {
+            for (String second : texts) {
+                SunDesk x = new SunDesk();
+                Due.fault(x, 0, first);
+                DUE.is("FAULT of " + second + " behind " + first, Due.fault(x, 0, second), Due.fault(new SunDesk(), 0, second));
+            }
+        }
+        SunDesk x = Due.hill(texts[0]);
+        for (String text : texts) {
+            Due.fault(x, 0, text);
+            DUE.is("the HILL is as it was told behind FAULT of " + text, x.sun(1), 2);
+            DUE.is("its PARISH", x.parish(0, 2), 3);
+            DUE.is("its DESK", x.desk(0, 3), 4);
+            DUE.is("its PAPER", x.paper(0, 2), 0);
+            DUE.is("PARISHES", x.count(0), 2);
+            DUE.is("DESKS", x.count(1), 1);
+            DUE.is("PAPERS", x.count(2), 2);
+            DUE.is("NEEDED", x.needed(0), 1);
+        }
+        Due.text(x, 0, "p;d;r");
+        int[] untold = {0, 6, 5};
+        for (int what = 0; what < 3; what++) {
+            DUE.is("without its ITEMS it is not as the one ahead", x.parish(0, what), untold[what]);
+        }
+        DUE.is("nor is the SUN", x.sun(0), 6);
+        DUE.is("nor is the DESK", x.desk(0, 2), 1);
+        DUE.is("nor is the PAPER", x.paper(0, 1), -1);
     }
 
     /** Each byte behind each beginning of a right TEXT. */

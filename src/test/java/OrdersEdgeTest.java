@@ -14,6 +14,8 @@ public final class OrdersEdgeTest {
         runStops();
         atHour9999();
         doAsActs();
+        hoursOfOrders();
+        textsOneBehindTheOther();
         DUE.close();
     }
 
@@ -227,6 +229,48 @@ public final class OrdersEdgeTest {
         DUE.is("HOUR", x.count(7), 9999);
         DUE.is("what is no h can", x.perform(2), 1);
         DUE.is("it waits", x.parish(0, 4), 0);
+    }
+
+    /** An h is an HOUR as by go: at DAWN there is light, whatever ECLIPSE is. */
+    private static void hoursOfOrders() {
+        String orders = "f00;h;h;f00;h";
+        SunDesk x = ordered("sa1;p;d;r", orders);
+        x.eclipse(99);
+        DUE.is("its FORM is gone at DAWN, so it may FILE it again", x.run(0), -1);
+        DUE.is("all are done", x.perform(0), 5);
+        DUE.is("it had light", x.parish(0, 6), 6);
+        DUE.is("LOG", x.log(0, 0), 1);
+        DUE.is("hours", x.log(0, 1), 6);
+        DUE.is("it holds it again", x.parish(0, 3), 1);
+        SunDesk ruled = ordered("sa9;p;d;r;rn0", "f00;h;f01");
+        Due.text(ruled, 1, "y:0");
+        ruled.rule(0);
+        DUE.is("REFUSED by the RULE that holds", ruled.run(0), 2);
+        DUE.is("done up to there", ruled.perform(0), 2);
+        DUE.is("REFUSED", ruled.parish(0, 8), 1);
+        ruled.rule(-1);
+        DUE.is("GRANTED without", ruled.run(0), -1);
+    }
+
+    /** What was read ahead of it, right or not, leaves nothing behind. */
+    private static void textsOneBehindTheOther() {
+        String[] texts = {"f12;w3;h", "h", "h;h;h;h;h;h;h;h;h;h;h;h;h;h;h;h;h", "f1", "w", "w9", ";", "f00;x", ""};
+        for (String first : texts) {
+            for (String second : texts) {
+                SunDesk x = new SunDesk();
+                Due.fault(x, 2, first);
+                DUE.is("FAULT of " + second + " behind " + first, Due.fault(x, 2, second), Due.fault(new SunDesk(), 2, second));
+                DUE.is("text of " + first, Due.text(x, 2, first) >= 0, Grammar.fault(2, first) == -1);
+                int told = Due.text(x, 2, second);
+                for (int i = 0; i < 4 && told >= 0; i++) {
+                    SunDesk alone = new SunDesk();
+                    Due.text(alone, 2, second);
+                    for (int what = 0; what < 3; what++) {
+                        DUE.is("STEP " + i + " of " + second + " behind " + first, x.step(told, i, what), alone.step(0, i, what));
+                    }
+                }
+            }
+        }
     }
 
     private static void doAsActs() {

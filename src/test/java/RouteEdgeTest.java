@@ -9,6 +9,9 @@ public final class RouteEdgeTest {
         whatItLacks();
         thereIsNone();
         leastRow();
+        leastRowBySearch();
+        rowsByChance();
+        askedAgain();
         openAndClose();
         goesOnWhenOpen();
         oneBehindTheOther();
@@ -139,6 +142,97 @@ public final class RouteEdgeTest {
         soonest("fewer HOURS by 1 first", Due.hill("pf2;do10c12;do2c4;d;r;rd1;rd2n0m1"), 0, 12, 102, 3);
         soonest("fewer HOURS by 0 first", Due.hill("pf2;do1c12;do2c4;d;r;rd1;rd2n0m1"), 0, 4, 12, 3);
         soonest("as many HOURS by both", Due.hill("pf2;d;do5c6;r;rd1;rd1n0m1"), 0, 30, 12, 3);
+    }
+
+    /** HOURS and the row (as digits) that is best from this HOUR on, by all rows in rising order; {-1, -1} if there is none. */
+    private static int[] best(SunDesk x, int lacks, int held, int hour, int begun, int row) {
+        if (lacks == 0) {
+            return new int[] {hour - begun, row};
+        }
+        int[] best = {-1, -1};
+        for (int r = 0; r < 8; r++) {
+            int wants = (x.paper(r, 1) < 0 ? 0 : 1 << x.paper(r, 1)) | (x.paper(r, 2) < 0 ? 0 : 1 << x.paper(r, 2));
+            if ((lacks >> r & 1) == 1 && (wants & ~held) == 0) {
+                int desk = x.paper(r, 0);
+                int end = hour;
+                for (int done = 0; done < x.desk(desk, 2); end++) {
+                    done += end % 24 >= x.desk(desk, 0) && end % 24 < x.desk(desk, 1) ? 1 : 0;
+                }
+                int[] rest = best(x, lacks & ~(1 << r), held | 1 << r, end, begun, row * 10 + r);
+                if (rest[0] >= 0 && (best[0] < 0 || rest[0] < best[0])) {
+                    best = rest;
+                }
+            }
+        }
+        return best;
+    }
+
+    private static void leastRowBySearch() {
+        String[] hills = {"pf4;do10c12t2;dc3;do5c9t3;d;r;rd1;rd2;rd3;rn0m1", "pf4;do20c22;dc2;do1c3;do7c9t3;rd3;rd2;rd1n0;r;rn2m3",
+            "pf4;do3c4;do3c5;do4c6;do2c3;r;rd1;rd2;rd3;rd3n0m1", "pf3;do8c9t2;do9c10t2;do10c11t2;r;rd1;rd2;rd1n0m2",
+            "pf0;do6c18t7;do12c13;dt3;rn1m2;rd1n3;rd2n3m4;rd1;rd2", "pf4;dc1;do1c2;do2c3;do3c4;rd3;rd2;rd1;r;rn0m3", "pf0;dt5;do4c6;rn1m2;rd1;rd1n3;r",
+            "pf3;do23c24;dc1;d;r;rd2n0;rd1n0;rn1m2d2", "pf3;do22c23;do23c24;d;r;rd2n0;rd1n0;rn1m2d2", "pf3;d;do1c2;do23;r;rd2n0;rd1n0;rn1m2",
+            "pf5;do6c9t2;do10c15t4;do1c2;do20c21t3;r;rd1;rd2n0;rd3n1;rn0m1;rd1n2m3"};
+        for (String hill : hills) {
+            SunDesk x = Due.hill(hill);
+            for (int hour = 0; hour < 24; hour++) {
+                SunDesk facts = Due.hill(hill);
+                int[] want = best(facts, facts.needed(facts.parish(0, 0)), 0, hour, hour, 0);
+                DUE.is("HOURS at " + hour + " of " + hill, x.soonest(0, 0), want[0]);
+                DUE.is("row at " + hour + " of " + hill, x.soonest(0, 1), want[1]);
+                x.go(1);
+            }
+        }
+    }
+
+    private static void rowsByChance() {
+        Texts texts = new Texts(11);
+        for (int i = 0; i < 300; i++) {
+            String hill = texts.hill();
+            SunDesk facts = Due.hill(hill);
+            for (int p = 0; p < facts.count(0); p++) {
+                int lacks = facts.needed(facts.parish(p, 0));
+                if (Integer.bitCount(lacks) <= 5) {
+                    int hour = (i * 7 + p) % 24;
+                    SunDesk x = Due.hill(hill);
+                    if (hour > 0) {
+                        x.go(hour);
+                    }
+                    int[] want = best(facts, lacks, 0, hour, hour, 0);
+                    DUE.is("HOURS of " + p + " at " + hour + " of " + hill, x.soonest(p, 0), want[0]);
+                    DUE.is("row of " + p + " at " + hour + " of " + hill, x.soonest(p, 1), want[1]);
+                }
+            }
+        }
+    }
+
+    /** The same is answered whatever was asked ahead of it. */
+    private static void askedAgain() {
+        String hill = "sa23;pf7;pf6;pf5;pf4;pf3;p;do6c9t2;do10c15t4;do1c2;do20c23t3;r;rd1n0;rd2n0;rd3n1;rn0m2;rd1n3;rd2n4m5;rd3n6";
+        SunDesk x = Due.hill(hill);
+        for (int hour = 0; hour < 26; hour++) {
+            for (int p = 0; p < 6; p++) {
+                SunDesk once = Due.hill(hill);
+                if (hour > 0) {
+                    once.go(hour);
+                }
+                DUE.is("row of " + p + " at " + hour, x.soonest(p, 1), once.soonest(p, 1));
+                DUE.is("HOURS of " + p + " at " + hour, x.soonest(p, 0), once.soonest(p, 0));
+            }
+            x.go(1);
+        }
+        SunDesk facts = Due.hill(hill);
+        for (int p = 1; p < 6; p++) {
+            for (int hour = 23; hour >= 0; hour -= 11) {
+                SunDesk once = Due.hill(hill);
+                if (hour > 0) {
+                    once.go(hour);
+                }
+                int[] want = best(facts, facts.needed(facts.parish(p, 0)), 0, hour, hour, 0);
+                DUE.is("HOURS of " + p + " at " + hour, once.soonest(p, 0), want[0]);
+                DUE.is("row of " + p + " at " + hour, once.soonest(p, 1), want[1]);
+            }
+        }
     }
 
     private static void openAndClose() {

@@ -25,6 +25,8 @@ public final class RuleEdgeTest {
         aboveZero();
         howSignsBind();
         asLongAsTheTape();
+        comparisonsJoined();
+        textsOneBehindTheOther();
         DUE.close();
     }
 
@@ -165,6 +167,13 @@ public final class RuleEdgeTest {
             fault("y:(h=1" + c, digit || sum || ")&| ".indexOf(c) >= 0 ? 7 : 6);
             fault("y:(h" + c, sum || compares || c == ' ' ? 5 : 4);
             fault("y:[1" + c, digit || sum || c == ' ' ? 5 : c == ']' ? -1 : 4);
+            fault("y:h=[1" + c, digit || sum || "] ".indexOf(c) >= 0 ? 7 : 6);
+            fault("y:(h=[1" + c, digit || sum || "] ".indexOf(c) >= 0 ? 8 : 7);
+            fault("y:h=[1]" + c, sum || "?&| ".indexOf(c) >= 0 ? 8 : 7);
+            fault("y:(h=[1]" + c, sum || ")&| ".indexOf(c) >= 0 ? 9 : 8);
+            fault("y:h=1?[2" + c, c == ']' ? -1 : digit || sum || c == ' ' ? 9 : 8);
+            fault("y:h=1?[2]" + c, c == ' ' ? -1 : sum || c == ';' ? 10 : 9);
+            fault("y:(h=1)&[2" + c, digit || sum || "] ".indexOf(c) >= 0 ? 11 : 10);
             fault("y:(h=1)" + c, "?&| ".indexOf(c) >= 0 ? 8 : 7);
             fault("y:((h=1)" + c, ")&| ".indexOf(c) >= 0 ? 9 : 8);
             fault("y:!h" + c, sum || compares || c == ' ' ? 5 : 4);
@@ -431,10 +440,64 @@ public final class RuleEdgeTest {
         equal("7-6/2*3+1", "[0-1]");
     }
 
+    private static void comparisonsJoined() {
+        String[] comparisons = {"1=1", "1<2", "2>1", "!1=2", "(0<1)", "1=2", "2<1", "1>2", "!1<2", "(0>1)"};
+        for (int a = 0; a < comparisons.length; a++) {
+            for (int b = 0; b < comparisons.length; b++) {
+                String pair = comparisons[a] + " " + comparisons[b];
+                DUE.is(pair + " &", grants("y:" + comparisons[a] + "&" + comparisons[b] + "?1"), a < 5 && b < 5);
+                DUE.is(pair + " |", grants("y:" + comparisons[a] + "|" + comparisons[b] + "?1"), a < 5 || b < 5);
+                DUE.is(pair + " !&", grants("y:!(" + comparisons[a] + "&" + comparisons[b] + ")?1"), a >= 5 || b >= 5);
+            }
+        }
+    }
+
+    /** What was read ahead of it, right or not, leaves nothing behind. */
+    private static void textsOneBehindTheOther() {
+        String[] texts = {"y:1", "y:!(h=1|[d]<2)?3;y:4", "y:(", "y:((((((", "y:!!!!!!", "y:[[[[[[", "y:[1", "y:(h=1)", "y:h=1", "y:!h", "y:h=1?", "y:[1+(", "y:1+",
+            "y:(h=1)?1", "y:[1]", "y:!!!!!!h=1?1", "y:((((((h=1))))))?1", "y:[[[[[[1]]]]]]", "y:h=1?1", "x", ""};
+        for (String first : texts) {
+            for (String second : texts) {
+                SunDesk x = new SunDesk();
+                Due.fault(x, 1, first);
+                DUE.is("FAULT of " + second + " behind " + first, Due.fault(x, 1, second), Grammar.fault(1, second));
+            }
+            SunDesk x = Due.hill("p;d;r");
+            DUE.is("text of " + first, Due.text(x, 1, first) >= 0, Grammar.fault(1, first) == -1);
+            int zero = Due.text(x, 1, "y:0");
+            int one = Due.text(x, 1, "y:h=1?0;y:1");
+            Due.fault(x, 1, first);
+            x.rule(zero);
+            x.file(0, 0);
+            x.go(1);
+            DUE.is("REFUSED by y:0 behind " + first, x.parish(0, 8), 1);
+            x.rule(one);
+            x.file(0, 0);
+            x.go(1);
+            DUE.is("REFUSED at 1 behind " + first, x.parish(0, 8), 2);
+            x.file(0, 0);
+            x.go(1);
+            DUE.is("GRANTED at 2 behind " + first, x.parish(0, 3), 1);
+        }
+    }
+
     private static void asLongAsTheTape() {
         right("y:1" + "+1".repeat(118) + "0");
         granted("y:1" + "+1".repeat(118) + "0");
         refused("y:1" + "-1".repeat(118) + "0");
+        SunDesk x = Due.hill("sa23;p;d;r");
+        for (int i = 0; i < 4; i++) {
+            DUE.is("four of 240 bytes", Due.text(x, 1, "y:0" + "+0".repeat(118) + (i % 2)), i);
+        }
+        for (int i = 0; i < 4; i++) {
+            x.rule(i);
+            x.file(0, 0);
+            x.go(1);
+            DUE.is("REFUSED by RULE " + i, x.parish(0, 8), 1 - i % 2);
+            DUE.is("GRANTED by RULE " + i, x.parish(0, 3), i % 2);
+            x.undo();
+            x.undo();
+        }
         // As many signs wait for what stands behind them as may.
         granted("y:" + "0=1|0=0&(".repeat(5) + "0=1|0=0&9=1+2*[1+3]" + ")".repeat(5) + "?1");
         refused("y:" + "0=1|0=0&(".repeat(5) + "0=1|0=0&9=1+2*[1+4]" + ")".repeat(5) + "?1");

@@ -11,6 +11,7 @@ public final class TapeEdgeTest {
         upTo240();
         oneAtATime();
         firstBytesAlone();
+        nothingBehindTheEnd();
         sortsOfFault();
         emptyThen();
         whatIsGone();
@@ -157,6 +158,27 @@ public final class TapeEdgeTest {
         DUE.is("end(240) then", x.end(240), false);
     }
 
+    /** What stood behind the first n bytes is read no more, whatever it was. */
+    private static void nothingBehindTheEnd() {
+        String[][] texts = {{"p;d;r", "pn12;d;r", "sa1l2;p;d;r"}, {"y:1", "y:h=12?3", "y:[1]+23"}, {"h", "f12;w3", "w1;h"}};
+        String[] behind = {"     ", "12345", "0", ";", "; ", " ;h", "fff", "]", "?"};
+        for (int sort = 0; sort < 3; sort++) {
+            for (String text : texts[sort]) {
+                for (int n = 0; n <= text.length(); n++) {
+                    for (String more : behind) {
+                        SunDesk x = new SunDesk();
+                        Due.feed(x, text.substring(0, n) + more);
+                        DUE.is("end", x.end(n), true);
+                        SunDesk alone = new SunDesk();
+                        Due.feed(alone, text.substring(0, n));
+                        DUE.is("FAULT of " + n + " bytes of " + text + " ahead of \"" + more + "\"", x.fault(sort), alone.fault(sort));
+                        DUE.is("text of " + n + " bytes of " + text + " ahead of \"" + more + "\"", x.text(sort), alone.text(sort));
+                    }
+                }
+            }
+        }
+    }
+
     private static void sortsOfFault() {
         DUE.says("Promise 4", "The FAULT of the TAPE as a HILL (0), a RULE (1), ORDERS (2). NONE: none. -2: no such sort.");
         String[] texts = {"p;d;r", "y:1", "h"};
@@ -204,8 +226,32 @@ public final class TapeEdgeTest {
                 Due.text(x, 0, hill);
             }), Asked.after(x -> {
                 Stands.played(x);
+                // What was asked of the one ahead is not what is answered of this one.
+                for (int p = 0; p < 4; p++) {
+                    x.soonest(p, 1);
+                    x.ahead(p, 9, 0);
+                }
+                x.rests(-1);
+                x.could(-1);
                 Due.text(x, 0, hill);
             })), "");
+            SunDesk x = Due.hill("pf1;pf2;pf3;p;p;do9c12t5;r;rn0;rn1m0;rn2m1");
+            for (int hour = 0; hour < 24; hour++) {
+                x.earliest();
+                x.go(1);
+            }
+            x.rests(-1);
+            Due.text(x, 0, hill);
+            SunDesk first = Due.hill(hill);
+            DUE.is("rests", x.rests(-1), first.rests(-1));
+            for (int hour = 0; hour < 24; hour++) {
+                for (int p = 0; p < x.count(0); p++) {
+                    DUE.is("a HILL anew: row of " + p, x.soonest(p, 1), first.soonest(p, 1));
+                    DUE.is("a HILL anew: HOURS of " + p, x.soonest(p, 0), first.soonest(p, 0));
+                }
+                x.go(1);
+                first.go(1);
+            }
         }
         SunDesk x = new SunDesk();
         Stands.full(x);
