@@ -104,37 +104,37 @@ public final class ActEdgeTest {
         DUE.is("HOUR", x.count(7), 200);
     }
 
-    private static void eachIsUndone() {
+    /** A HILL behind so many ACTS of all sorts, the same ones each time. */
+    private static SunDesk acted(int many) {
         SunDesk x = Due.hill("sa5l9;pn4;pf1z9;d;do3c9t2e4;r;rd1n0");
         Due.text(x, 1, "y:h<6?1;y:0");
         x.rule(0);
-        String[] stands = new String[41];
-        int acts = 0;
-        while (acts < 40) {
-            stands[acts] = Due.stand(x);
-            if (acts % 5 == 2 && x.file(0, 0) != -1 || acts % 5 == 3 && x.file(1, acts % 2) != -1 || acts % 9 == 4 && x.withdraw(1) != -1) {
-                acts++;
-            } else {
-                int way = acts % 3;
-                int hour = way == 0 ? x.go(1) : way == 1 ? x.toil(1) : x.years(1, acts);
+        for (int i = 0; i < many; i++) {
+            boolean filed = i % 5 == 2 && x.file(0, 0) != -1 || i % 5 == 3 && x.file(1, i % 2) != -1;
+            if (!filed && (i % 9 != 4 || x.withdraw(1) == -1)) {
+                int way = i % 3;
+                int hour = way == 0 ? x.go(1) : way == 1 ? x.toil(1) : x.years(1, i);
                 DUE.is("HOUR", hour, x.count(7));
-                acts++;
             }
         }
-        while (acts > 0) {
-            acts--;
-            DUE.is("undo", x.undo(), acts);
-            String is = Due.stand(x);
-            DUE.same("as it was ahead of ACT " + acts, is, stands[acts]);
+        DUE.is("ACTS", x.count(11), many);
+        return x;
+    }
+
+    private static void eachIsUndone() {
+        for (int left = 0; left <= 40; left++) {
+            SunDesk x = acted(40);
+            for (int i = 39; i >= left; i--) {
+                DUE.is("undo", x.undo(), i);
+            }
+            DUE.same("as it was behind " + left + " ACTS", Due.stand(x), Due.stand(acted(left)));
         }
     }
 
     private static void theLogToo() {
         SunDesk x = Due.hill("sa0;p;d;r");
         x.file(0, 0);
-        for (int i = 0; i < 6; i++) {
-            x.go(240);
-        }
+        Due.pass(x, 1440);
         DUE.is("rows", x.count(10), 60);
         DUE.is("the second DAY had light", x.log(58, 0), 1);
         x.go(1);
@@ -240,10 +240,7 @@ public final class ActEdgeTest {
     private static void aheadBeyond9999() {
         DUE.says("3", "(beyond 9999, too)");
         SunDesk x = Due.hill("sa6;p;do20t9;r");
-        for (int i = 0; i < 41; i++) {
-            x.go(240);
-        }
-        x.go(159);
+        Due.pass(x, 9999);
         x.file(0, 0);
         DUE.is("no HOUR can be", x.go(1), -1);
         // HOUR 9999 is at 15: open from 20 to 24, four hours a DAY, the ninth at HOUR 10052.
@@ -325,14 +322,10 @@ public final class ActEdgeTest {
         DUE.is("light", x.log(0, 0), 1);
         SunDesk full = Due.hill("sa0;p;d;r");
         full.toil(48);
-        for (int i = 0; i < 6; i++) {
-            full.go(240);
-        }
+        Due.pass(full, 1440);
         full.image();
         String log = Due.stand(full).replaceFirst(" 60 40 ", " 60 0 ");
-        for (int i = 0; i < 6; i++) {
-            full.go(240);
-        }
+        Due.pass(full, 1440);
         full.back();
         DUE.same("all its 60 rows", Due.stand(full), log);
     }
@@ -393,15 +386,16 @@ public final class ActEdgeTest {
     }
 
     private static void imageAtTheEnd() {
+        SunDesk apart = new SunDesk();
+        Stands.full(apart);
         SunDesk x = new SunDesk();
         Stands.full(x);
-        String before = Due.stand(x);
         DUE.is("image", x.image(), 9999);
         for (int i = 0; i < 40; i++) {
             x.undo();
         }
         DUE.is("back", x.back(), 9999);
-        DUE.same("all of it", Due.stand(x), before.replaceFirst(" 60 40 ", " 60 0 "));
+        DUE.same("all of it", Due.stand(x), Due.stand(apart).replaceFirst(" 60 40 ", " 60 0 "));
         DUE.is("no HOUR can be", x.go(1), -1);
     }
 }

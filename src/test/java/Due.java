@@ -118,6 +118,22 @@ final class Due {
         return seen.append(x.could(-1)).append(' ').append(x.wrong()).toString();
     }
 
+    /** Lets so many HOURS pass, more than one call may. */
+    static void pass(SunDesk x, int hours) {
+        for (int left = hours; left > 0; left -= 240) {
+            x.go(Math.min(left, 240));
+        }
+    }
+
+    /** A new object with this HILL and these ORDERS. */
+    static SunDesk ordered(String hill, String... orders) {
+        SunDesk x = hill(hill);
+        for (String o : orders) {
+            text(x, 2, o);
+        }
+        return x;
+    }
+
     /** A new object with this HILL. */
     static SunDesk hill(String text) {
         SunDesk x = new SunDesk();

@@ -492,9 +492,7 @@ public final class GameEdgeTest {
         DUE.is("the latest two", logged(0, 1, 2, 3).works(2, 0), 2);
         SunDesk full = Due.hill("sa0;p;d;r");
         full.file(0, 0);
-        for (int i = 0; i < 6; i++) {
-            full.go(240);
-        }
+        Due.pass(full, 1440);
         DUE.is("60 rows", full.count(10), 60);
         DUE.is("the second of 60", full.works(1, 0), 1);
         DUE.is("the first nine", full.works(9, 0), 0);

@@ -138,10 +138,7 @@ public final class HourEdgeTest {
         SunDesk x = Due.hill("sa23;p;d;r");
         Due.text(x, 1, rule);
         x.rule(0);
-        for (int i = 0; i < hour / 240; i++) {
-            x.go(240);
-        }
-        x.go(hour % 240);
+        Due.pass(x, hour);
         x.file(0, 0);
         DUE.is("HOUR", x.go(1), hour + 1);
         return x.parish(0, 3) == 1;
@@ -322,10 +319,7 @@ public final class HourEdgeTest {
         DUE.is("rows", x.count(10), 2);
         x.go(1);
         DUE.is("rows", x.count(10), 3);
-        for (int i = 0; i < 5; i++) {
-            x.go(240);
-        }
-        x.go(144);
+        Due.pass(x, 1344);
         int day = 57;
         while (day < 64) {
             day++;
@@ -508,9 +502,7 @@ public final class HourEdgeTest {
         SunDesk x = Due.hill("p;d;r");
         DUE.is("go(1)", x.go(1), 1);
         DUE.is("go(240)", x.go(240), 241);
-        for (int i = 0; i < 40; i++) {
-            x.go(240);
-        }
+        Due.pass(x, 9600);
         DUE.is("go(157)", x.go(157), 9998);
         DUE.is("go(2)", x.go(2), -1);
         DUE.is("go(1)", x.go(1), 9999);

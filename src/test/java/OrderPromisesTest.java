@@ -12,16 +12,8 @@ public final class OrderPromisesTest {
         DUE.close();
     }
 
-    private static SunDesk ordered(String hill, String... orders) {
-        SunDesk x = Due.hill(hill);
-        for (String o : orders) {
-            Due.text(x, 2, o);
-        }
-        return x;
-    }
-
     private static void promise20() {
-        SunDesk x = ordered("sa9;p;p;d;r;rn0", "f00;h;f01;h;w0", "f00;h;f01;w0;w0;h", "f10;f10", "w1");
+        SunDesk x = Due.ordered("sa9;p;p;d;r;rn0", "f00;h;f01;h;w0", "f00;h;f01;w0;w0;h", "f10;f10", "w1");
         String before = Due.stand(x);
         DUE.is("run(0)", x.run(0), 4);
         DUE.is("run(1)", x.run(1), 4);
@@ -32,27 +24,27 @@ public final class OrderPromisesTest {
         DUE.same("it is apart", Due.stand(x), before);
         x.file(1, 0);
         DUE.is("from how it stands now", x.run(3), -1);
-        SunDesk all = ordered("sa9;p;p;d;r;rn0", "f00;f10;h;h;f01;f11;h;h");
+        SunDesk all = Due.ordered("sa9;p;p;d;r;rn0", "f00;f10;h;h;f01;f11;h;h");
         DUE.is("all can be", all.run(0), -1);
         SunDesk none = new SunDesk();
         Due.text(none, 2, "h");
         DUE.is("no HILL", none.run(0), -1000000);
-        SunDesk far = ordered("sa9;p;d;r", "f10", "f09", "w9", "h;h");
+        SunDesk far = Due.ordered("sa9;p;d;r", "f10", "f09", "w9", "h;h");
         DUE.is("no such PARISH", far.run(0), 0);
         DUE.is("no such PAPER", far.run(1), 0);
         DUE.is("no such PARISH", far.run(2), 0);
         Due.text(far, 1, "y:0");
-        SunDesk ruled = ordered("sa9;p;d;r;rn0", "f00;h;f01");
+        SunDesk ruled = Due.ordered("sa9;p;d;r;rn0", "f00;h;f01");
         Due.text(ruled, 1, "y:0");
         DUE.is("granted", ruled.run(0), -1);
         ruled.rule(0);
         DUE.is("refused by the RULE that holds", ruled.run(0), 2);
-        SunDesk dawn = ordered("sa1;p;d;r;rn0", "f00;h;h;f01");
+        SunDesk dawn = Due.ordered("sa1;p;d;r;rn0", "f00;h;h;f01");
         DUE.is("its FORM is gone at DAWN", dawn.run(0), 3);
     }
 
     private static void promise20Ends() {
-        SunDesk x = ordered("p;d;r", "h;h;h", "f00;h;h;w0");
+        SunDesk x = Due.ordered("p;d;r", "h;h;h", "f00;h;h;w0");
         for (int i = 0; i < 41; i++) {
             x.go(240);
         }
@@ -67,7 +59,7 @@ public final class OrderPromisesTest {
     }
 
     private static void promise21() {
-        SunDesk x = ordered("sa9;p;p;d;r;rn0", "f00;h;f01;h;w0", "w1", "f10;h", "f19");
+        SunDesk x = Due.ordered("sa9;p;p;d;r;rn0", "f00;h;f01;h;w0", "w1", "f10;h", "f19");
         DUE.is("perform(4)", x.perform(4), -1);
         DUE.is("perform(-1)", x.perform(-1), -1);
         DUE.is("none", x.perform(1), 0);

@@ -27,14 +27,6 @@ public final class OrdersEdgeTest {
         fault(text, -1);
     }
 
-    private static SunDesk ordered(String hill, String... orders) {
-        SunDesk x = Due.hill(hill);
-        for (String o : orders) {
-            Due.text(x, 2, o);
-        }
-        return x;
-    }
-
     private static void fourOrders() {
         DUE.says("Terms", "ORDERS (4 at most)");
         SunDesk x = new SunDesk();
@@ -160,7 +152,7 @@ public final class OrdersEdgeTest {
     private static void whoIsNotThere() {
         DUE.says("Terms", "(A PARISH, a PAPER of a STEP that is not there is no FAULT: the STEP can't be.)");
         for (int i = 0; i < 10; i++) {
-            SunDesk x = ordered("p;p;p;d;r;r", "f" + i + "0", "f0" + i, "w" + i);
+            SunDesk x = Due.ordered("p;p;p;d;r;r", "f" + i + "0", "f0" + i, "w" + i);
             DUE.is("f" + i + "0 is told", x.count(4), 3);
             DUE.is("run of f" + i + "0", x.run(0), i < 3 ? -1 : 0);
             DUE.is("run of f0" + i, x.run(1), i < 2 ? -1 : 0);
@@ -189,7 +181,7 @@ public final class OrdersEdgeTest {
         String hill = "sa9;p;p;d;r;rn0";
         for (int at = 0; at < 16; at++) {
             String text = "h;".repeat(at) + "w0" + ";h".repeat(15 - at);
-            SunDesk x = ordered(hill, text);
+            SunDesk x = Due.ordered(hill, text);
             String before = Due.stand(x);
             DUE.is("run of " + text, x.run(0), at);
             DUE.same("it is apart", Due.stand(x), before);
@@ -197,21 +189,18 @@ public final class OrdersEdgeTest {
             DUE.is("HOURS", x.count(7), at);
             DUE.is("ACTS", x.count(11), at);
         }
-        SunDesk x = ordered(hill, "h;".repeat(15) + "h", "f00;f10;h;f01;w0;w1", "f00;f00", "f00;h;f00");
+        SunDesk x = Due.ordered(hill, "h;".repeat(15) + "h", "f00;f10;h;f01;w0;w1", "f00;f00", "f00;h;f00");
         DUE.is("all sixteen can be", x.run(0), -1);
         DUE.is("each of these can be", x.run(1), -1);
         DUE.is("it waits", x.run(2), 1);
         DUE.is("it holds it", x.run(3), 2);
-        DUE.is("it does not hold what that WANTS", ordered(hill, "f01").run(0), 0);
-        DUE.is("it waits nowhere", ordered(hill, "f00;w0;w0").run(0), 2);
+        DUE.is("it does not hold what that WANTS", Due.ordered(hill, "f01").run(0), 0);
+        DUE.is("it waits nowhere", Due.ordered(hill, "f00;w0;w0").run(0), 2);
     }
 
     private static SunDesk at(int hour, String... orders) {
-        SunDesk x = ordered("p;d;r", orders);
-        for (int i = 0; i < hour / 240; i++) {
-            x.go(240);
-        }
-        x.go(hour % 240);
+        SunDesk x = Due.ordered("p;d;r", orders);
+        Due.pass(x, hour);
         DUE.is("HOUR", x.count(7), hour);
         return x;
     }
@@ -234,7 +223,7 @@ public final class OrdersEdgeTest {
     /** An h is an HOUR as by go: at DAWN there is light, whatever ECLIPSE is. */
     private static void hoursOfOrders() {
         String orders = "f00;h;h;f00;h";
-        SunDesk x = ordered("sa1;p;d;r", orders);
+        SunDesk x = Due.ordered("sa1;p;d;r", orders);
         x.eclipse(99);
         DUE.is("its FORM is gone at DAWN, so it may FILE it again", x.run(0), -1);
         DUE.is("all are done", x.perform(0), 5);
@@ -242,7 +231,7 @@ public final class OrdersEdgeTest {
         DUE.is("LOG", x.log(0, 0), 1);
         DUE.is("hours", x.log(0, 1), 6);
         DUE.is("it holds it again", x.parish(0, 3), 1);
-        SunDesk ruled = ordered("sa9;p;d;r;rn0", "f00;h;f01");
+        SunDesk ruled = Due.ordered("sa9;p;d;r;rn0", "f00;h;f01");
         Due.text(ruled, 1, "y:0");
         ruled.rule(0);
         DUE.is("REFUSED by the RULE that holds", ruled.run(0), 2);
@@ -276,9 +265,9 @@ public final class OrdersEdgeTest {
     private static void doAsActs() {
         DUE.says("3", "DO: its STEPS as ACTS, up to there.");
         DUE.says("Promise 21", "DO: how many STEPS were done.");
-        SunDesk x = ordered("sa9;p;p;dt2;r;rn0", "f00;f10;h;h;w1;f11;h");
+        SunDesk x = Due.ordered("sa9;p;p;dt2;r;rn0", "f00;f10;h;h;w1;f11;h");
         String[] stands = new String[8];
-        SunDesk apart = ordered("sa9;p;p;dt2;r;rn0", "f00;f10;h;h;w1;f11;h");
+        SunDesk apart = Due.ordered("sa9;p;p;dt2;r;rn0", "f00;f10;h;h;w1;f11;h");
         stands[0] = Due.stand(apart);
         apart.file(0, 0);
         stands[1] = Due.stand(apart);

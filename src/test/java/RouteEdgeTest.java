@@ -144,27 +144,65 @@ public final class RouteEdgeTest {
         soonest("as many HOURS by both", Due.hill("pf2;d;do5c6;r;rd1;rd1n0m1"), 0, 30, 12, 3);
     }
 
-    /** HOURS and the row (as digits) that is best from this HOUR on, by all rows in rising order; {-1, -1} if there is none. */
-    private static int[] best(SunDesk x, int lacks, int held, int hour, int begun, int row) {
-        if (lacks == 0) {
-            return new int[] {hour - begun, row};
-        }
-        int[] best = {-1, -1};
-        for (int r = 0; r < 8; r++) {
-            int wants = (x.paper(r, 1) < 0 ? 0 : 1 << x.paper(r, 1)) | (x.paper(r, 2) < 0 ? 0 : 1 << x.paper(r, 2));
-            if ((lacks >> r & 1) == 1 && (wants & ~held) == 0) {
-                int desk = x.paper(r, 0);
-                int end = hour;
-                for (int done = 0; done < x.desk(desk, 2); end++) {
-                    done += end % 24 >= x.desk(desk, 0) && end % 24 < x.desk(desk, 1) ? 1 : 0;
-                }
-                int[] rest = best(x, lacks & ~(1 << r), held | 1 << r, end, begun, row * 10 + r);
-                if (rest[0] >= 0 && (best[0] < 0 || rest[0] < best[0])) {
-                    best = rest;
+    /** What is told of a HILL's DESKS and PAPERS, asked for once. */
+    private static final class Facts {
+        final int[] deskOf = new int[8];
+        final int[] wants = new int[8];
+        final int[][] desks = new int[4][3];
+
+        Facts(SunDesk x) {
+            for (int r = 0; r < 8; r++) {
+                int n = x.paper(r, 1);
+                int m = x.paper(r, 2);
+                deskOf[r] = x.paper(r, 0);
+                wants[r] = (n < 0 ? 0 : 1 << n) | (m < 0 ? 0 : 1 << m);
+            }
+            for (int d = 0; d < 4; d++) {
+                for (int what = 0; what < 3; what++) {
+                    desks[d][what] = x.desk(d, what);
                 }
             }
         }
-        return best;
+
+        /** The HOUR behind the one in which the DESK of a PAPER is done with it, hour by hour. */
+        int end(int paper, int hour) {
+            int[] desk = desks[deskOf[paper]];
+            int end = hour;
+            for (int done = 0; done < desk[2]; end++) {
+                done += end % 24 >= desk[0] && end % 24 < desk[1] ? 1 : 0;
+            }
+            return end;
+        }
+
+        /** The HOUR at which all is held and the row (as digits) that is best, by all rows in rising order; {-1, -1} if there is none. */
+        int[] best(int lacks, int held, int hour, int row) {
+            if (lacks == 0) {
+                return new int[] {hour, row};
+            }
+            int[] best = {-1, -1};
+            for (int r = 0; r < 8; r++) {
+                if ((lacks >> r & 1) == 1 && (wants[r] & ~held) == 0) {
+                    int[] rest = best(lacks & ~(1 << r), held | 1 << r, end(r, hour), row * 10 + r);
+                    best = rest[0] >= 0 && (best[0] < 0 || rest[0] < best[0]) ? rest : best;
+                }
+            }
+            return best;
+        }
+    }
+
+    private static void asBySearch(String hill, SunDesk x, int parish, int hour) {
+        SunDesk apart = Due.hill(hill);
+        int[] want = new Facts(apart).best(apart.needed(apart.parish(parish, 0)), 0, hour, 0);
+        String when = " of " + parish + " at " + hour + " of " + hill;
+        DUE.is("HOURS" + when, x.soonest(parish, 0), want[0] < 0 ? -1 : want[0] - hour);
+        DUE.is("row" + when, x.soonest(parish, 1), want[1]);
+    }
+
+    /** This HILL at an HOUR of its first DAY, when nobody holds anything. */
+    private static SunDesk at(String hill, int hour) {
+        SunDesk x = Due.hill(hill);
+        Due.pass(x, hour);
+        return x;
     }
 
     private static void leastRowBySearch() {
@@ -176,10 +214,7 @@ public final class RouteEdgeTest {
         for (String hill : hills) {
             SunDesk x = Due.hill(hill);
             for (int hour = 0; hour < 24; hour++) {
-                SunDesk facts = Due.hill(hill);
-                int[] want = best(facts, facts.needed(facts.parish(0, 0)), 0, hour, hour, 0);
-                DUE.is("HOURS at " + hour + " of " + hill, x.soonest(0, 0), want[0]);
-                DUE.is("row at " + hour + " of " + hill, x.soonest(0, 1), want[1]);
+                asBySearch(hill, x, 0, hour);
                 x.go(1);
             }
         }
@@ -191,16 +226,9 @@ public final class RouteEdgeTest {
             String hill = texts.hill();
             SunDesk facts = Due.hill(hill);
             for (int p = 0; p < facts.count(0); p++) {
-                int lacks = facts.needed(facts.parish(p, 0));
-                if (Integer.bitCount(lacks) <= 5) {
+                if (Integer.bitCount(facts.needed(facts.parish(p, 0))) <= 5) {
                     int hour = (i * 7 + p) % 24;
-                    SunDesk x = Due.hill(hill);
-                    if (hour > 0) {
-                        x.go(hour);
-                    }
-                    int[] want = best(facts, lacks, 0, hour, hour, 0);
-                    DUE.is("HOURS of " + p + " at " + hour + " of " + hill, x.soonest(p, 0), want[0]);
-                    DUE.is("row of " + p + " at " + hour + " of " + hill, x.soonest(p, 1), want[1]);
+                    asBySearch(hill, at(hill, hour), p, hour);
                 }
             }
         }
@@ -212,25 +240,15 @@ public final class RouteEdgeTest {
         SunDesk x = Due.hill(hill);
         for (int hour = 0; hour < 26; hour++) {
             for (int p = 0; p < 6; p++) {
-                SunDesk once = Due.hill(hill);
-                if (hour > 0) {
-                    once.go(hour);
-                }
+                SunDesk once = at(hill, hour);
                 DUE.is("row of " + p + " at " + hour, x.soonest(p, 1), once.soonest(p, 1));
                 DUE.is("HOURS of " + p + " at " + hour, x.soonest(p, 0), once.soonest(p, 0));
             }
             x.go(1);
         }
-        SunDesk facts = Due.hill(hill);
         for (int p = 1; p < 6; p++) {
             for (int hour = 23; hour >= 0; hour -= 11) {
-                SunDesk once = Due.hill(hill);
-                if (hour > 0) {
-                    once.go(hour);
-                }
-                int[] want = best(facts, facts.needed(facts.parish(p, 0)), 0, hour, hour, 0);
-                DUE.is("HOURS of " + p + " at " + hour, once.soonest(p, 0), want[0]);
-                DUE.is("row of " + p + " at " + hour, once.soonest(p, 1), want[1]);
+                asBySearch(hill, at(hill, hour), p, hour);
             }
         }
     }

@@ -54,9 +54,7 @@ final class Stands {
         x.eclipse(99);
         Due.text(x, 0, WIDE);
         x.toil(48);
-        for (int i = 0; i < 41; i++) {
-            x.go(240);
-        }
+        Due.pass(x, 9840);
         x.file(5, 7);
         x.image();
         x.go(111);

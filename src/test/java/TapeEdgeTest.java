@@ -244,8 +244,9 @@ public final class TapeEdgeTest {
             Due.text(x, 0, hill);
             SunDesk first = Due.hill(hill);
             DUE.is("rests", x.rests(-1), first.rests(-1));
+            int parishes = x.count(0);
             for (int hour = 0; hour < 24; hour++) {
-                for (int p = 0; p < x.count(0); p++) {
+                for (int p = 0; p < parishes; p++) {
                     DUE.is("a HILL anew: row of " + p, x.soonest(p, 1), first.soonest(p, 1));
                     DUE.is("a HILL anew: HOURS of " + p, x.soonest(p, 0), first.soonest(p, 0));
                 }
