@@ -12,6 +12,8 @@ final class Asked {
         void ask(Asked asked);
     }
 
+    /** Those that only ask. */
+    private static final Page[] QUESTIONS = {Asked::askFacts, Asked::askLog, Asked::askSteps, Asked::askAhead, Asked::askRoutes, Asked::askGames};
     private static final Page[] PAGES = {Asked::askFacts, Asked::askLog, Asked::askSteps, Asked::askAhead, Asked::askRoutes, Asked::askGames,
         Asked::askTape, a -> a.askUndone(1), a -> a.askUndone(17), a -> a.askUndone(40), Asked::askUndoneAll, Asked::askBack,
         Asked::askPerformed, Asked::askYears, Asked::askTold};
@@ -33,6 +35,15 @@ final class Asked {
             page.ask(new Asked(x, answers));
         }
         return answers;
+    }
+
+    static int questions() {
+        return QUESTIONS.length;
+    }
+
+    /** Asks a page of questions and forgets what is answered. */
+    static void ask(SunDesk x, int page) {
+        QUESTIONS[page].ask(new Asked(x, new ArrayList<>()));
     }
 
     /** The first answer that is another one; "" if all are alike. */
@@ -120,7 +131,7 @@ final class Asked {
             note("works", n, 0, x.works(n, 0));
             note("works", n, 1, x.works(n, 1));
         }
-        for (int i = -1; i < 64; i++) {
+        for (int i = -1; i < 17; i++) {
             note("could", i, x.could(i));
         }
         note("sure()", x.sure());
@@ -233,8 +244,9 @@ final class Asked {
     private void askTold() {
         for (int sort = 0; sort < 3; sort++) {
             note("text", sort, x.text(sort));
-            askStand();
+            askCounts();
         }
+        askStand();
         note("a RULE", Due.text(x, 1, "y:7"));
         note("ORDERS", Due.text(x, 2, "h;w3"));
         note("a HILL", Due.text(x, 0, "sa3;p;d;r"));

@@ -45,6 +45,7 @@ public final class RefusedTest {
         images();
         counts();
         everyReasonIsTried();
+        whatIsAskedChangesNothing();
         DUE.close();
     }
 
@@ -753,6 +754,16 @@ public final class RefusedTest {
         inPlay();
         yes("count(0)", x -> x.count(0), 4);
         yes("count(11)", x -> x.count(11), 15);
+    }
+
+    private static void whatIsAskedChangesNothing() {
+        for (int page = 0; page < Asked.questions(); page++) {
+            int p = page;
+            DUE.same("behind page " + p + " of questions", Asked.difference(Asked.after(Stands::played), Asked.after(x -> {
+                Stands.played(x);
+                Asked.ask(x, p);
+            })), "");
+        }
     }
 
     /** The reasons that the document tells behind NONE, False, HIDDEN, -2 and the exception, and those that were tried, are the same. */
