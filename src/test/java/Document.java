@@ -3,10 +3,13 @@ import java.nio.file.Files;
 import java.nio.file.Path;
 import java.util.LinkedHashMap;
 import java.util.Map;
+import java.util.Set;
+import java.util.TreeSet;
 
 /** The document's own words by section: "Terms", "2", "3", "4", "Constants", "Promise 1" to "Promise 38". */
 final class Document {
     private static final Path PLACE = Path.of("../shared/DOC.md");
+    private static final Set<String> HEADS = new TreeSet<>();
     private static final Map<String, String> SECTIONS = read();
 
     private Document() {
@@ -21,6 +24,11 @@ final class Document {
         return !words.isEmpty() && section(section).contains(words);
     }
 
+    /** Whether the promise is that of this method. */
+    static boolean heads(String promise, String method) {
+        return HEADS.contains("## " + promise + ": " + method);
+    }
+
     static Iterable<String> sections() {
         return SECTIONS.keySet();
     }
@@ -32,6 +40,7 @@ final class Document {
             for (String line : Files.readAllLines(PLACE)) {
                 String head = head(line);
                 if (head != null) {
+                    HEADS.add(line);
                     part = parts.computeIfAbsent(head, h -> new StringBuilder());
                 }
                 if (!line.startsWith("#") && !line.startsWith("```")) {
